@@ -1166,7 +1166,9 @@ public final class LowerHalf {
 
         void add(int kind, int who, int was, House house) {
             if (size >= MOST_UNDONE) {
-                System.arraycopy(rows, FIELDS, rows, 0, rows.length - FIELDS);
+                for (int i = 0; i + FIELDS < rows.length; i++) {
+                    rows[i] = rows[i + FIELDS];
+                }
                 size = MOST_UNDONE - 1;
             }
             int row = size * FIELDS;

@@ -117,6 +117,34 @@ public final class DeedsTest {
         Due.isWith(x, "door", x.undo(), 2, 0);
         Due.is("door is shut", x.room(0, 1), 0);
         Due.refused(x, "nothing more", x.undo(), -3);
+        LowerHalf y = new LowerHalf();
+        y.perch(2, 0);
+        y.perch(2, 0);
+        y.link(0, 1, 1);
+        for (int k = 0; k < 3; k++) {
+            y.folk(1, 0);
+            y.badger(k + 1);
+            y.thing(0, 0, 0);
+        }
+        y.door(1, 2);
+        y.door(3, 4);
+        y.door(2, 3);
+        y.pass();
+        y.stride(2, 1);
+        y.put(1, 1);
+        y.pass();
+        int[] due = {3, 1, 0, 3, 2, 2, 2};
+        for (int k = 0; k < due.length; k++) {
+            Due.is("undo " + k, y.undo(), due[k]);
+            Due.is("badger 0 behind " + k, y.sow(0, 0), k < 3 ? 2 : 1);
+            Due.is("badger 2 behind " + k, y.sow(2, 0), k < 3 ? 4 : 3);
+            Due.is("badger 1 behind " + k, y.sow(1, 0), k < 3 ? 3 : 2);
+            Due.is("folk behind " + k, y.of(2, 1), k < 2 ? 1 : 0);
+            Due.is("thing behind " + k, y.has(1, 0), k < 1 ? 1 : 0);
+            Due.is("caught behind " + k, y.count(4), k < 3 ? 3 : 0);
+            Due.is("hour behind " + k, y.count(15), k < 3 ? 1 : 0);
+            Due.is("doors behind " + k, y.room(2, 1) + 100 * y.room(3, 1), k < 4 ? 10 + 100 * 20 : k < 5 ? 2 + 100 * 16 : k < 6 ? 2 : 0);
+        }
         for (int k = 0; k < 20; k++) {
             x.door(0, 1 + k % 5);
         }
@@ -220,6 +248,38 @@ public final class DeedsTest {
         Due.is("drawn stays", x.drawn(1, 0), dusk);
         Due.is("no law 1", x.compare(1, 0), -1);
         Due.is("seen", x.canBe(), 0);
+        LowerHalf y = new LowerHalf();
+        y.image(0);
+        y.perch(3, 4);
+        y.perch(3, 5);
+        y.folk(6, 1);
+        y.badger(2);
+        y.thing(1, 7, 8);
+        y.seen(9, 2);
+        Due.law(y, "theirs 5");
+        y.image(1);
+        y.back(0);
+        for (int what = 0; what <= 8; what++) {
+            Due.is("an empty house again: count " + what, y.count(what), 0);
+        }
+        y.perch(1, 1);
+        y.perch(1, 1);
+        y.folk(1, 0);
+        y.badger(3);
+        y.thing(0, 1, 1);
+        y.seen(1, 1);
+        Due.law(y, "theirs 6");
+        y.back(1);
+        int[] all = {y.at(1, 0), y.at(1, 1), y.of(0, 0), y.of(0, 1), y.sow(0, 0), y.has(0, 0), y.has(0, 1), y.has(0, 2),
+            y.canBe(), y.compare(0, 0)};
+        int[] dueAll = {3, 5, 6, 1, 2, 1, 7, 8, 1, 5};
+        for (int k = 0; k < all.length; k++) {
+            Due.is("what the image keeps " + k, all[k], dueAll[k]);
+        }
+        y.door(2, 3);
+        Due.is("seen where and when", y.canBe(), 0);
+        Due.under(y, "goes room; goes 3 if hour=9");
+        Due.is("seen at that hour", y.canBe(), 1);
         x.perch(0, 9);
         Due.isWith(x, "back again: images stay", x.back(1), 0, 0);
         Due.is("perches", x.count(0), 3);

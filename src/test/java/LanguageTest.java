@@ -60,6 +60,56 @@ public final class LanguageTest {
         faultOfLaw("pass", 0);
     }
 
+    private static void everyByteAndWord() {
+        for (int sign = 0; sign < 256; sign++) {
+            char c = (char) sign;
+            if (c >= '0' && c <= '9' || c >= 'a' && c <= 'z' || c == ' ') {
+                continue;
+            }
+            faultOfLaw("theirs " + c, c == '[' ? 8 : 7);
+            faultOfOrders("pass " + c, c == ';' ? 6 : 5);
+            faultOfLaw("theirs 1 " + c, "+-*/%;".indexOf(c) < 0 ? 9 : 10);
+        }
+        String ofLaws = " room clock hour badger folk legs perch high mood ";
+        String ofOrders = " hour done latest caught clock ";
+        String others = "theirs goes bars if or and not stride to put on door by pass times done latest caught at a z zz";
+        for (String word : (ofLaws.trim() + " " + others).split(" ")) {
+            if (ofLaws.contains(" " + word + " ")) {
+                goodLaw("theirs " + word + " if " + word + "=" + word + ";goes " + word);
+            } else {
+                faultOfLaw("theirs " + word, 7);
+            }
+            LowerHalf x = new LowerHalf();
+            if (ofOrders.contains(" " + word + " ")) {
+                Due.is(word, Due.orders(x, "pass if " + word + "=" + word), 1);
+            } else if (" on room at ".contains(" " + word + " ")) {
+                Due.is(word + " of one", Due.orders(x, "pass if " + word + " 0=0-1 and " + word + "01 = 0-1"), 1);
+                faultOfOrders("pass if " + word + "=1", 8 + word.length());
+            } else {
+                faultOfOrders("stride " + word, 7);
+            }
+        }
+        faultOfLaw("xheirs 1", 0);
+        faultOfLaw("theirx 1", 0);
+        faultOfLaw("barsz", 0);
+        faultOfLaw("bars zzz", 5);
+        faultOfLaw("bars azbycxdw", 5);
+        faultOfLaw(";".repeat(400), 0);
+        faultOfLaw("theirs 1 if " + "(".repeat(388), 20);
+        faultOfLaw("theirs 1 " + "+".repeat(391), 10);
+        goodLaw("bars" + " ".repeat(396));
+        LowerHalf x = new LowerHalf();
+        x.end(0);
+        for (int k = 0; k < 20; k++) {
+            x.feed(0x3b3b3b3b, 0x28282828, 0x3b3b3b3b, 0x5b5b5b5b, 0x3b3b3b3b);
+        }
+        Due.is("400 tokens", x.orders(), -6);
+        Due.is("fault of 400 tokens", x.fault(), 0);
+        for (String digits : "0 1 9 10 99 100 999 1000".split(" ")) {
+            goodLaw("theirs " + digits + "+0" + digits);
+        }
+    }
+
     private static void limits() {
         goodLaw("bars" + ";bars".repeat(11));
         faultOfLaw("bars" + ";bars".repeat(12), 60);
@@ -220,6 +270,7 @@ public final class LanguageTest {
 
     public static void main(String[] args) {
         lawFaults();
+        everyByteAndWord();
         limits();
         orderFaults();
         sums();

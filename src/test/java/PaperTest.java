@@ -282,6 +282,8 @@ public final class PaperTest {
         Due.refused(x, "n 0", x.dusks(0, 0), -1);
         Due.refused(x, "n 61", x.dusks(0, 61), -1);
         Due.refused(x, "no folk", x.dusks(0, 1), -3);
+        x.perch(0, 0);
+        Due.refused(x, "perches, no folk", x.dusks(0, 1), -3);
         x = Due.ladder(0, 0, 0);
         x.folk(5, 1);
         x.badger(0);
