@@ -1,3 +1,4 @@
+import java.lang.reflect.Field;
 import java.lang.reflect.InvocationTargetException;
 import java.lang.reflect.Method;
 import java.lang.reflect.Modifier;
@@ -104,6 +105,27 @@ public final class AnyCallsTest {
         }
     }
 
+    /** Nothing but the document's face can be seen from outside, and it is of int, but for few. */
+    private static void shape(List<Method> face) {
+        Due.is("the class is public and final", LowerHalf.class.getModifiers(), Modifier.PUBLIC | Modifier.FINAL);
+        Due.is("public constructors", LowerHalf.class.getConstructors().length, 1);
+        Due.is("all constructors", LowerHalf.class.getDeclaredConstructors().length, 1);
+        Due.is("public constants", LowerHalf.class.getFields().length, 1);
+        for (Method m : face) {
+            boolean isInts = List.of(m.getParameterTypes()).stream().allMatch(t -> t == int.class);
+            Class<?> answer = m.getName().equals("few") ? long.class : int.class;
+            Due.is(m.getName() + " is of the document's types", isInts && m.getReturnType() == answer && !Modifier.isStatic(m.getModifiers()) ? 1 : 0, 1);
+        }
+        for (Method m : LowerHalf.class.getDeclaredMethods()) {
+            Due.is(m.getName() + " is private or of the face", Modifier.isPrivate(m.getModifiers()) || face.contains(m) ? 1 : 0, 1);
+        }
+        for (Field f : LowerHalf.class.getDeclaredFields()) {
+            boolean isNone = f.getName().equals("NONE") && f.getModifiers() == (Modifier.PUBLIC | Modifier.STATIC | Modifier.FINAL);
+            Due.is(f.getName() + " is private or NONE", Modifier.isPrivate(f.getModifiers()) || isNone ? 1 : 0, 1);
+        }
+        Due.is("NONE", LowerHalf.NONE, -1);
+    }
+
     public static void main(String[] args) throws ReflectiveOperationException {
         List<Method> face = face();
         StringBuilder names = new StringBuilder();
@@ -114,8 +136,7 @@ public final class AnyCallsTest {
             System.out.println("the face is " + names);
             System.exit(1);
         }
-        Due.is("public constructors", LowerHalf.class.getConstructors().length, 1);
-        Due.is("public constants", LowerHalf.class.getFields().length, 1);
+        shape(face);
         for (long seed = 1; seed <= 300; seed++) {
             run(seed, face);
         }

@@ -1,5 +1,6 @@
 /** Promises 22 to 27, 45 and 46: laws in force, deeds, what is undone, images. */
 public final class DeedsTest {
+    /** Promise 22. */
     private static void forces() {
         LowerHalf x = new LowerHalf();
         x.door(0, 1);
@@ -16,6 +17,7 @@ public final class DeedsTest {
         Due.is("force leaves what can be undone", x.count(7), 1);
     }
 
+    /** Promise 23. */
     private static void strides() {
         LowerHalf x = new LowerHalf();
         x.perch(0, 0);
@@ -39,6 +41,7 @@ public final class DeedsTest {
         Due.refused(x, "barred", x.stride(0, 1), -3);
     }
 
+    /** Promises 24 and 25. */
     private static void putsAndDoors() {
         LowerHalf x = Due.ladder(0, 0);
         x.thing(1, 0, 0);
@@ -55,6 +58,7 @@ public final class DeedsTest {
         Due.is("can be undone", x.count(7), 3);
     }
 
+    /** Promise 26. */
     private static void passes() {
         LowerHalf x = Due.ladder(0, 1, 2);
         x.folk(1, 1);
@@ -73,7 +77,7 @@ public final class DeedsTest {
         Due.refused(x, "the last hour", x.pass(), -3);
         Due.under(x, "theirs 10; goes 0");
         x.terms(0, 0);
-        Due.orders(x, "pass times 20; pass times 20; pass times 20; pass times 20; pass times 20; pass times 20; pass times 20; pass times 20; pass times 20; pass times 20; pass times 20; pass times 20");
+        Due.orders(x, "pass times 20" + "; pass times 20".repeat(11));
         Due.orders(x, "pass times 20; pass times 20; pass times 20; pass times 20; pass times 11 if caught<998");
         Due.is("caught so far", x.count(4), 4 + 239 * 3 + 91 * 3 > 999 ? 999 : 4 + 239 * 3 + 91 * 3);
         LowerHalf y = Due.ladder(0);
@@ -96,6 +100,7 @@ public final class DeedsTest {
         Due.is("dusks tell what is not cut off", y.dusks(0, 5), 3);
     }
 
+    /** Promise 27. */
     private static void undone() {
         LowerHalf x = Due.ladder(0, 3);
         x.thing(0, 1, 1);
@@ -167,6 +172,7 @@ public final class DeedsTest {
         Due.is("hour 9", x.count(15), 9);
     }
 
+    /** Promise 27: what ends it. */
     private static void whatEndsUndoing() {
         LowerHalf x = Due.ladder(0, 0);
         x.image(0);
@@ -200,6 +206,7 @@ public final class DeedsTest {
         Due.is("left by all others", x.count(7), 6);
     }
 
+    /** Promises 45 and 46. */
     private static void images() {
         LowerHalf x = Due.ladder(1, 2, 3);
         x.badger(1);

@@ -1,5 +1,6 @@
 /** Promises 1 to 13, 47 and 48: what stands in the house. */
 public final class HouseTest {
+    /** Promise 1. */
     private static void newObject() {
         LowerHalf x = new LowerHalf();
         for (int what = 0; what <= 13; what++) {
@@ -20,6 +21,7 @@ public final class HouseTest {
         }
     }
 
+    /** Promises 2 and 3. */
     private static void perches() {
         LowerHalf x = new LowerHalf();
         for (int k = 0; k < 10; k++) {
@@ -50,6 +52,7 @@ public final class HouseTest {
         Due.is("at to a perch that is not there", y.at(0, 4), -1);
     }
 
+    /** Promises 4 and 5. */
     private static void folk() {
         LowerHalf x = new LowerHalf();
         x.perch(3, 1);
@@ -71,6 +74,7 @@ public final class HouseTest {
         Due.is("of folk -1", x.of(-1, 1), -1);
     }
 
+    /** Promises 6 and 7. */
     private static void badgers() {
         LowerHalf x = new LowerHalf();
         Due.refused(x, "badger in 6", x.badger(6), -1);
@@ -92,6 +96,7 @@ public final class HouseTest {
         Due.is("sow badger -1", x.sow(-1, 0), -1);
     }
 
+    /** Promises 8 and 9. */
     private static void things() {
         LowerHalf x = new LowerHalf();
         x.perch(0, 0);
@@ -114,6 +119,7 @@ public final class HouseTest {
         Due.is("has thing -1", x.has(-1, 0), -1);
     }
 
+    /** Promise 10. */
     private static void links() {
         LowerHalf x = new LowerHalf();
         x.perch(0, 0);
@@ -131,6 +137,7 @@ public final class HouseTest {
         Due.is("link leaves what can be undone", x.count(7), 1);
     }
 
+    /** Promises 11 and 12. */
     private static void roomsAndCan() {
         LowerHalf x = new LowerHalf();
         Due.is("theirs at 0", x.room(0, 0), 2);
@@ -165,6 +172,7 @@ public final class HouseTest {
         Due.is("can not where it is barred", x.can(0, 1), 0);
     }
 
+    /** Promise 13. */
     private static void terms() {
         LowerHalf x = new LowerHalf();
         Due.isWith(x, "hour 999", x.terms(0, 999), 0, 0);
@@ -182,6 +190,7 @@ public final class HouseTest {
         Due.is("mood", x.count(17), 9);
     }
 
+    /** Promises 47 and 48. */
     private static void countsAndStatus() {
         LowerHalf x = new LowerHalf();
         x.perch(9, 0);

@@ -19,6 +19,7 @@ public final class LanguageTest {
         Due.is("fault of '" + text + "'", x.fault(), -1);
     }
 
+    /** Promises 18 and 20. */
     private static void lawFaults() {
         faultOfLaw("theirs", 6);
         faultOfLaw("theirs ", 7);
@@ -60,6 +61,7 @@ public final class LanguageTest {
         faultOfLaw("pass", 0);
     }
 
+    /** Promises 18 to 20: block II, tokens and words. */
     private static void everyByteAndWord() {
         for (int sign = 0; sign < 256; sign++) {
             char c = (char) sign;
@@ -110,6 +112,7 @@ public final class LanguageTest {
         }
     }
 
+    /** Promises 18 and 20: block II, clauses, parts, brackets. */
     private static void limits() {
         goodLaw("bars" + ";bars".repeat(11));
         faultOfLaw("bars" + ";bars".repeat(12), 60);
@@ -132,6 +135,7 @@ public final class LanguageTest {
         goodLaw("theirs2if1=1;goes room+1if not(folk=1or badger>2)and high<3");
     }
 
+    /** Promises 19 and 20. */
     private static void orderFaults() {
         faultOfOrders("theirs 1", 0);
         faultOfOrders("stride 0", 8);
@@ -173,6 +177,7 @@ public final class LanguageTest {
         return x.room(3, 0);
     }
 
+    /** Promise 18: block II, sums; promise 11. */
     private static void sums() {
         Due.is("sum", theirs("1+2*3"), 7);
         Due.is("left", theirs("9-4-3"), 2);
@@ -198,6 +203,7 @@ public final class LanguageTest {
         Due.is("high", theirs("high+5"), 4);
     }
 
+    /** Promise 18: block II, tests; promise 11. */
     private static void tests() {
         Due.is("<", so("1<2"), 1);
         Due.is("not <", so("2<2"), 0);
@@ -221,6 +227,7 @@ public final class LanguageTest {
         Due.is("three ands", so("not (1=1 and 1=0 and 1/0=1)"), 1);
     }
 
+    /** Promise 18: block II, words of laws; promises 7, 11, 12. */
     private static void lawsTell() {
         LowerHalf x = Due.ladder(3, 4);
         x.badger(2);
@@ -232,7 +239,8 @@ public final class LanguageTest {
                 x.door(room, other);
             }
         }
-        Due.under(x, "theirs clock; theirs hour if room=1; theirs mood if room=2; goes badger; goes room+10 if badger=1; bars if legs=5 and high=4 and perch=1 and folk=0 and badger=0-1 and room=0");
+        Due.under(x, "theirs clock; theirs hour if room=1; theirs mood if room=2; "
+            + "goes badger; goes room+10 if badger=1; bars if legs=5 and high=4 and perch=1 and folk=0 and badger=0-1 and room=0");
         Due.is("clock", x.room(0, 0), 6);
         Due.is("hour", x.room(1, 0), 10);
         Due.is("mood", x.room(2, 0), 7);
@@ -249,6 +257,7 @@ public final class LanguageTest {
         Due.is("where it is", x.sow(0, 1), 2);
     }
 
+    /** Promise 19: block II, words of orders. */
     private static void ordersTell() {
         LowerHalf x = Due.ladder(0, 0, 0, 0, 0, 0);
         x.folk(5, 3);

@@ -1,5 +1,6 @@
 /** Promises 28 to 44: what is reckoned on paper. */
 public final class PaperTest {
+    /** Promise 28. */
     private static void soonest() {
         LowerHalf x = Due.ladder(9, 9, 9, 9);
         Due.is("there", x.soonest(0, 0, -1), 0);
@@ -50,6 +51,7 @@ public final class PaperTest {
         Due.is("it was on paper", z.of(0, 1), 4);
     }
 
+    /** Promises 29 and 30. */
     private static void nearAndCut() {
         LowerHalf x = Due.ladder(0, 0, 0, 0);
         Due.is("near 0", x.near(0, 0), 1);
@@ -89,6 +91,7 @@ public final class PaperTest {
         Due.is("cut: those two", y.cut(0, 7, 1), 16 + 64);
     }
 
+    /** Promise 31. */
     private static void roosts() {
         LowerHalf x = Due.ladder(1, 2, 1, 2);
         Due.is("roost", x.roost(0), 1);
@@ -116,6 +119,7 @@ public final class PaperTest {
         Due.is("the lowest of as many", z.roost(0), 2);
     }
 
+    /** Promises 32 and 33. */
     private static void badgersGo() {
         LowerHalf x = Due.ladder(0);
         x.badger(4);
@@ -148,6 +152,7 @@ public final class PaperTest {
         Due.is("it was on paper", x.sow(0, 0), 4);
     }
 
+    /** Promises 34, 36 and 42. */
     private static void rooms() {
         LowerHalf x = Due.ladder(1, 2);
         x.thing(0, 1, 1);
@@ -181,6 +186,7 @@ public final class PaperTest {
         Due.is("in force still", x.count(14), 2);
     }
 
+    /** Promise 35. */
     private static void shares() {
         LowerHalf x = Due.ladder(0);
         Due.is("no things", x.shares(0), 0);
@@ -201,6 +207,7 @@ public final class PaperTest {
         Due.is("four things: part", x.shares(1), 12);
     }
 
+    /** Promises 37 to 40. */
     private static void sightings() {
         LowerHalf x = new LowerHalf();
         Due.is("nobody", x.canBe(), 0);
@@ -252,6 +259,7 @@ public final class PaperTest {
         Due.is("look beyond 999", y.look(0), 3);
     }
 
+    /** Promise 41. */
     private static void few() {
         LowerHalf x = new LowerHalf();
         Due.is("fewer than 1 of 0", x.few(1, 0), 1_000_000_000_000L);
@@ -275,6 +283,7 @@ public final class PaperTest {
         Due.is("none snores", x.few(1, 99), 1_000_000_000_000L);
     }
 
+    /** Promises 43 and 44. */
     private static void dusks() {
         LowerHalf x = new LowerHalf();
         Due.refused(x, "seed -1", x.dusks(-1, 1), -1);

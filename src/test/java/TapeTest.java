@@ -1,5 +1,6 @@
 /** Promises 14 to 21: the tape, rows, where texts fault and orders stop. */
 public final class TapeTest {
+    /** Promises 14 and 15. */
     private static void tape() {
         LowerHalf x = new LowerHalf();
         for (int k = 1; k <= 20; k++) {
@@ -19,6 +20,7 @@ public final class TapeTest {
         Due.is("no refusal", x.count(9), 0);
     }
 
+    /** Promise 14: the highest byte first; promise 16. */
     private static void bytes() {
         LowerHalf x = new LowerHalf();
         for (int k = 0; k < 5; k++) {
@@ -33,6 +35,7 @@ public final class TapeTest {
         }
     }
 
+    /** Promises 16 and 17. */
     private static void rows() {
         LowerHalf x = new LowerHalf();
         x.perch(0, 0);
@@ -57,6 +60,7 @@ public final class TapeTest {
         Due.is("long 7", x.at(0, 5), 7);
     }
 
+    /** Promises 18 and 20. */
     private static void laws() {
         LowerHalf x = new LowerHalf();
         x.door(0, 1);
@@ -77,6 +81,7 @@ public final class TapeTest {
         Due.is("compare", x.compare(5, 0), 5);
     }
 
+    /** Promises 19 to 21. */
     private static void orders() {
         LowerHalf x = Due.ladder(0, 0, 0);
         x.thing(0, 1, 1);
