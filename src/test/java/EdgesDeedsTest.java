@@ -64,6 +64,9 @@ public final class EdgesDeedsTest {
             "pass()=1");
         Runs.run(26, "asked as it was ahead: where badgers were; then they go, as hour was", Runs.ladder(0),
             "badger(0)=0 badger(5)=1 door(0, 1)=1 door(5, 0)=1 pass()=1 sow(0, 0)=1 sow(1, 0)=0 pass()=1 sow(1, 0)=1 pass()=0 count(4)=2");
+        Runs.run(26, "safe by the law, in the room of the perch", "perch(3, 4)=0 perch(2, 4)=1 perch(0, 4)=2 perch(1, 4)=3 folk(1, 0)=0 folk(1, 1)=1 folk(1, 2)=2",
+            "folk(1, 3)=3 badger(0)=0 badger(1)=1 badger(3)=2 law'theirs 5 if room=3'=0 law'theirs 5 if room=2'=1 law'theirs 5 if room<2; theirs 4 if room>1'=2",
+            "pass()=0 force(0)=-1 pass()=1 force(1)=0 pass()=0 force(2)=1 pass()=2 count(4)=3");
         Runs.run(26, "badgers go by the law at that hour", "badger(0)=0 door(0, 1)=1 door(0, 3)=1 law'goes 3 if hour=1; goes room if hour=0'=0",
             "force(0)=-1 pass()=0 sow(0, 0)=0 pass()=0 sow(0, 0)=3");
         Runs.run(26, "all badgers go at once", "badger(0)=0 badger(1)=1 badger(2)=2 door(0, 1)=1 door(1, 2)=1 door(2, 3)=1 pass()=0 sow(0, 0)=1",
@@ -86,6 +89,10 @@ public final class EdgesDeedsTest {
         Runs.run(27, "which: 0 a stride, 1 put, 2 a door, 3 an hour, the latest first", Runs.ladder(0, 0),
             "thing(0, 0, 0)=0 stride(0, 1)=0 put(0, 1)=0 door(0, 1)=1 pass()=0 count(7)=4",
             "undo()=3 count(15)=0 count(7)=3 undo()=2 room(0, 1)=0 room(1, 1)=0 undo()=1 has(0, 0)=0 undo()=0 of(0, 1)=0 count(7)=0 undo()!-3");
+        Runs.run(27, "each of the folk, the things, the doors for itself", Runs.ladder(0, 0, 0, 0), "folk(1, 1)=1 folk(1, 2)=2 folk(1, 3)=3",
+            "thing(3, 0, 0)=0 thing(2, 0, 0)=1 thing(1, 0, 0)=2 stride(3, 2)=0 stride(1, 2)=0 put(2, 3)=1 put(1, 0)=2 door(3, 5)=1 stride(1, 3)=0",
+            "undo()=0 of(1, 1)=2 undo()=2 room(3, 1)=0 room(5, 1)=0 undo()=1 has(1, 0)=2 has(2, 0)=3 undo()=1 has(2, 0)=1 has(0, 0)=3",
+            "undo()=0 of(1, 1)=1 of(3, 1)=2 undo()=0 of(3, 1)=3 of(0, 1)=0 of(2, 1)=2");
         Runs.run(27, "16 are kept", "door(0, 1)=1 pass()=0*15 count(7)=16 undo()=3*15 undo()=2 undo()!-3 room(0, 1)=0 count(15)=0");
         Runs.run(27, "16 are kept, of 17 the first is not", "door(0, 1)=1 pass()=0*16 count(7)=16 undo()=3*16 undo()!-3 room(0, 1)=2 count(15)=0");
         Runs.run(27, "those of orders, too, one by one", Runs.ladder(0, 0), "thing(0, 0, 0)=0 orders'stride 0 to 1; put 0 on 1; door 0 by 1; pass'=4",
@@ -169,8 +176,9 @@ public final class EdgesDeedsTest {
             "at(0, 0)=1 at(0, 1)=2 at(1, 0)=3 at(1, 1)=4 at(2, 1)=9 at(0, 4)=5 at(1, 5)=0 room(0, 1)=0 room(1, 1)=8 of(0, 0)=6 of(0, 1)=0 of(1,",
             "0)=-1 sow(0, 0)=1 sow(1, 0)=-1 has(0, 0)=2 has(0, 1)=3 has(0, 2)=4 has(1, 0)=-1",
             "count(15)=1 count(16)=2 count(17)=3 count(5)=1 canBe()=1 count(6)=1 count(14)=0 room(4, 0)=9 compare(1, 0)=-1");
-        Runs.run(46, "when and where was seen", "badger(0)=0 door(0, 1)=1 seen(0, 0)=1 seen(1, 1)=2 image(0)=0 canBe()=1 forget()=2 seen(1, 0)=1",
-            "seen(0, 1)=2 canBe()=0 back(0)=0 canBe()=1 count(5)=2");
+        Runs.run(46, "when and where was seen", "badger(0)=0 door(0, 1)=1 law'goes room; goes 1 if hour=3'=0 force(0)=-1 seen(3, 0)=1 seen(4, 1)=2",
+            "image(0)=0 canBe()=1 forget()=2 seen(4, 0)=1 seen(3, 1)=2 canBe()=0 back(0)=0 canBe()=1 count(5)=2 seen(9, 1)=3 image(1)=0 forget()=3",
+            "seen(9, 0)=1 canBe()=0 back(1)=0 canBe()=1 count(5)=3 back(0)=0 seen(3, 1)=3 canBe()=0");
         Runs.run(46, "caught to which it goes back", FOUR_CAUGHT, "pass()=4 image(0)=0 pass()=4 count(4)=8 back(0)=0 count(4)=4 count(15)=1");
         Runs.run(46, "the tape is not kept", "image(0)=0 tape'pass'=4 back(0)=0 count(8)=4 orders()=1 tape'pass'=4 image(1)=0 end(0)=0 back(1)=0",
             "count(8)=0");

@@ -147,6 +147,7 @@ public final class EdgesPaperTest {
         Runs.run(34, "theirs 0 high, the nearest of what is below 0, too", "law'theirs 0-1'=0 force(0)=-1 free(0)=0 law'theirs 1; theirs 0-5 if",
             "room=2'=1 force(1)=0 free(2)=0 free(1)=-1");
         Runs.run(34, "hours go on beyond 999", "terms(0, 999)=0 law'theirs 1; theirs 0 if hour=1000+47'=0 force(0)=-1 free(0)=48");
+        Runs.run(34, "as mood is now", "law'theirs mood'=0 force(0)=-1 terms(2, 3)=0 free(0)=-1 terms(2, 0)=3 free(0)=0");
         Runs.run(34, "badgers aside", "badger(0)=0 terms(0, 6)=0 free(0)=0");
         Runs.run(35, "what 0, 1", "shares(-1)=-1 shares(0)=0 shares(1)=0 shares(2)=-1 shares(MIN)=-1 shares(MAX)=-1");
         Runs.run(35, "no things: 0", Runs.ladder(0), "shares(0)=0 shares(1)=0");
@@ -164,6 +165,7 @@ public final class EdgesPaperTest {
             "terms(0, 6)=0 low(0)=0 low(1)=0 terms(0, 18)=6 low(0)=9 put(3, 1)=0 low(0)=1");
         Runs.run(36, "as high as theirs is safe; by the law", "perch(0, 4)=0 perch(0, 5)=1 thing(0, 0, 0)=0 thing(1, 0, 0)=1 law'theirs 5'=0",
             "law'theirs 4'=1 law'theirs 6'=2 force(0)=-1 low(0)=1 force(1)=0 low(0)=0 force(2)=1 low(0)=3");
+        Runs.run(36, "as mood is now", "perch(0, 4)=0 thing(0, 0, 0)=0 law'theirs mood'=0 force(0)=-1 terms(2, 5)=0 low(0)=1 terms(2, 4)=5 low(0)=0");
         Runs.run(36, "thing 5 is bit 5", Runs.perches(1), SIX_THINGS, "low(0)=63 law'theirs 0'=0 force(0)=-1 low(0)=0");
     }
 
@@ -244,6 +246,7 @@ public final class EdgesPaperTest {
         Runs.run(42, "in place of that in force, which stays", "law'theirs 4'=0 law'theirs 9'=1 force(1)=-1 compare(0, 2)=4 compare(1, 2)=9",
             "compare(-1, 2)=2 room(2, 0)=9 count(14)=1");
         Runs.run(42, "now", "law'theirs 4 if hour=6'=0 compare(0, 0)=2 terms(0, 6)=0 compare(0, 0)=4 compare(-1, 0)=0 terms(0, 7)=6 compare(0, 0)=0");
+        Runs.run(42, "as mood is now", "law'theirs mood'=0 terms(2, 5)=0 compare(0, 0)=5 terms(2, 4)=5 compare(0, 0)=4");
         Runs.run(42, "0 .. 10, the nearest", "law'theirs 11'=0 law'theirs 0-1'=1 law'theirs 10'=2 compare(0, 0)=10 compare(1, 0)=0 compare(2, 0)=10");
     }
 

@@ -179,6 +179,10 @@ public final class EdgesTextTest {
         faults("orders", "fault at the 51st part", "pass if 1" + "+1".repeat(49) + "=1", 108, "stride 1" + "+1".repeat(48) + " to 1+1", 110,
             "pass if on 0" + "+on 0".repeat(49) + "=0", 258,
             "pass if 1=1" + " and 1=1".repeat(24) + " or on 0=1", 207);
+        faults("law", "fault where the 51st part should be, whatever else stands there", "theirs 1" + "+1".repeat(49) + "+ if 1=1", 108,
+            "theirs 1" + "+1".repeat(49) + "+;bars", 107, "theirs 1" + "+1".repeat(49) + "+)", 107, "theirs 1" + "+1".repeat(49) + "+", 107);
+        faults("orders", "fault where the 51st part should be, whatever else stands there", "put 1" + "+1".repeat(49) + "+on 0 on 1", 104,
+            "put 1" + "+1".repeat(49) + " on on 0", 107, "pass if 1" + "+1".repeat(48) + "<1 and if", 112);
         isLaw("8 brackets within one another, any side by side", "theirs " + "[".repeat(8) + "1" + "]".repeat(8),
             "bars if " + "(".repeat(8) + "1=1" + ")".repeat(8),
             "bars if ((((([[[1]]]=1)))))", "bars if (((((((1=[1])))))))", "theirs [1]" + "+[1]".repeat(20), "bars if (1=1)" + " or (1=1)".repeat(20),
